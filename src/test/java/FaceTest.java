@@ -117,7 +117,8 @@ public final class FaceTest {
         check(parts.length <= 12, "too many classes inside");
         for (Class<?> part : parts) {
             int modifiers = part.getModifiers();
-            check(Modifier.isStatic(modifiers) && !Modifier.isPublic(modifiers), part + " is not static or is public");
+            check(Modifier.isStatic(modifiers) && !Modifier.isPublic(modifiers),
+                    part + " is not static or is public");
             int fields = 0;
             for (Field field : part.getDeclaredFields()) {
                 fields += Modifier.isStatic(field.getModifiers()) ? 0 : 1;

@@ -688,7 +688,8 @@ public final class ModelRuns {
         if (kind == 7 && a >= 0 && a < 64 && m.now.numberFor(a) < 0) {
             met[11]++;
         }
-        same("question " + kind + " (" + a + ", " + b + ")", () -> ask(x, kind, a, b), () -> m.ask(kind, a, b));
+        same("question " + kind + " (" + a + ", " + b + ")",
+                () -> ask(x, kind, a, b), () -> m.ask(kind, a, b));
         double mean = m.now.packets.isEmpty() ? 0.0 : (double) m.now.bytes() / m.now.packets.size();
         same("meanSize()", () -> Double.doubleToLongBits(x.meanSize()), () -> Double.doubleToLongBits(mean));
     }

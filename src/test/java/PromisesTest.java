@@ -279,6 +279,7 @@ public final class PromisesTest {
         x.setStrides(7, 300);
         x.stream(2);
         dueHeader(6, x, 2, 0, 17, 500, 0, 6, 2, 1);
+        dueHeader(6, x, 3, 0, 24, 800, 0, 6, 2, 2);
         x.setPolicy(0, 1);
         x.stream(1);
         x.setPolicy(2, 1);
@@ -487,7 +488,11 @@ public final class PromisesTest {
             refused(12, x, BOUNDS, "deliver(" + bad + ")", () -> x.deliver(bad));
         }
         deliverRowsOfUnknown();
+        deliverCarriedFields();
         deliverWrongOnes();
+        for (int field = -1; field < 4; field++) {
+            deliverWrongField(field);
+        }
         deliverOldOnes();
         deliverInterval();
         deliverBelowZero();
@@ -527,6 +532,50 @@ public final class PromisesTest {
             x.send();
             x.lose(keptInLink);
         }
+    }
+
+    private static void deliverCarriedFields() {
+        HeaderSqueezer x = with(1, 1);
+        x.setField(0, 200);
+        x.setField(3, 3);
+        x.send();
+        x.setField(0, 100);
+        x.send();
+        x.setField(3, 9);
+        x.send();
+        x.setField(0, 0);
+        x.setField(3, 0);
+        x.setField(1, 40000);
+        x.setField(2, 20000);
+        x.send();
+        due(12, "deliverAll() of packets that carry fields", x.deliverAll(), 4);
+        due(12, "count(2)", x.count(2), 4);
+        dueRecord(x, 1, 100, 0, 0, 3, 1, 160);
+        dueRecord(x, 2, 100, 0, 0, 9, 1, 160);
+        dueRecord(x, 3, 0, 40000, 20000, 0, 1, 160);
+    }
+
+    /** Record 65 is one of packet 1: packet 66 is wrong if a field has changed since, not by strides. */
+    private static void deliverWrongField(int field) {
+        HeaderSqueezer x = with(1, 1);
+        x.send();
+        x.send();
+        x.lose(0);
+        sendAndLose(x, 1, 64);
+        x.send();
+        x.deliver(1);
+        due(12, "deliver(0) of packet 1", x.deliver(0), 1);
+        if (field >= 0) {
+            x.setField(field, 1);
+        }
+        x.setStrides(9, 9);
+        x.send();
+        due(12, "deliver(0) of packet 65", x.deliver(0), 3);
+        x.setPolicy(1, 1);
+        x.send();
+        due(12, "deliver(0) of packet 66 with a changed field " + field, x.deliver(0), field < 0 ? 0 : 1);
+        due(12, "sent(66, 4)", x.sent(66, 4), 3);
+        dueRecord(x, 66, 0, 0, 0, 0, 1, 160);
     }
 
     private static void deliverWrongOnes() {
@@ -1096,6 +1145,9 @@ public final class PromisesTest {
         due(32, "field(1)", x.field(1), 0);
         undoOfPackets();
         undoOfRecords();
+        undoOfAcknowledgedPackets();
+        undoOfReceiver();
+        undoAfterFailedScripts();
         write(x, "q");
         x.advance();
         x.clearText();
@@ -1126,6 +1178,61 @@ public final class PromisesTest {
         due(32, "deliverAll()", x.deliverAll(), 2);
         due(32, "count(2)", x.count(2), 2);
         due(32, "record(1, 0)", x.record(1, 0), 2);
+    }
+
+    /** A number that was acknowledged before an undo is not when it is sent anew. */
+    private static void undoOfAcknowledgedPackets() {
+        HeaderSqueezer x = with(1, 0);
+        x.send();
+        x.deliver(0);
+        x.deliverBack(0);
+        due(32, "sent(0, 7)", x.sent(0, 7), 1);
+        x.undo();
+        x.undo();
+        x.undo();
+        due(32, "count(0)", x.count(0), 0);
+        x.send();
+        due(32, "sent(0, 7) of the packet sent anew", x.sent(0, 7), 0);
+        due(32, "reference()", x.reference(), NONE);
+        HeaderSqueezer y = with(1, 0);
+        due(32, "carryOut()", run(y, "s;d0;a0;"), 3);
+        due(32, "sent(0, 7)", y.sent(0, 7), 1);
+        y.undo();
+        y.send();
+        due(32, "sent(0, 7) of the packet sent anew", y.sent(0, 7), 0);
+        y.undo();
+        due(31, "carryOut() that fails behind the acknowledgment", run(y, "s;d0;a0;a0;"), -1003);
+        y.send();
+        due(31, "sent(0, 7) of the packet sent anew", y.sent(0, 7), 0);
+    }
+
+    /** A script that fails leaves the saved states alone, when there are four of them too. */
+    private static void undoAfterFailedScripts() {
+        HeaderSqueezer x = new HeaderSqueezer();
+        for (int value = 1; value <= 6; value++) {
+            x.setField(0, value);
+            due(31, "carryOut() of d0;", run(x, "n;s;d1;"), -1002);
+        }
+        for (int value = 5; value >= 2; value--) {
+            due(32, "undo() after scripts that failed", x.undo(), value - 2);
+            due(32, "field(0)", x.field(0), value);
+        }
+    }
+
+    private static void undoOfReceiver() {
+        HeaderSqueezer x = with(0, 0);
+        x.stream(3);
+        x.setReceiver(0, 3, 1);
+        x.undo();
+        due(32, "setReceiver(3, 2, 2) after undo()", x.setReceiver(3, 2, 2), 3);
+        x.undo();
+        x.deliverAll();
+        dueLink(32, x, true, 0, 1, 2);
+        x.setPolicy(1, 1);
+        x.stream(2);
+        x.lose(0);
+        x.deliver(0);
+        due(32, "count(6), by the patience before", x.count(6), 0);
     }
 
     private static void undoOfRecords() {
@@ -1207,6 +1314,36 @@ public final class PromisesTest {
         x.deliver(x.waiting(false) - 2);
         due(33, "digest() with an unknown one", x.digest(),
                 digestBy(x, new int[] {1, 4, 70, 2, 3, 0}, new int[] {5, 2, 3}, 1, 4));
+        digestOfWindow();
+    }
+
+    /** With H = 69 the digest takes the records 6 to 69 alone. */
+    private static void digestOfWindow() {
+        HeaderSqueezer x = new HeaderSqueezer();
+        x.setStrides(0, 7);
+        for (int i = 0; i < 7; i++) {
+            x.stream(10);
+            x.lose(8);
+            x.deliverAll();
+        }
+        long h = hash(3061, 0, 0, 0, 490, 0, 0, 7, 0, 0, 0);
+        for (int packet = 0; packet < 70; packet++) {
+            h = hash(h, 0, 0, 7 * packet + 7, 0, 12, 0, NONE, 0);
+        }
+        h = hash(h, 0, 20);
+        for (int index = 0; index < 20; index++) {
+            h = hash(h, index + (index + 1) / 9);
+        }
+        h = hash(h, 3, 1, 2, 69, 0, 57);
+        for (int number = 6; number < 70; number++) {
+            if (number % 10 == 8) {
+                h = hash(h, NONE, NONE, NONE, NONE, NONE, NONE);
+            } else {
+                h = hash(h, 0, 0, 7 * number + 7, 0, 0, 7);
+            }
+        }
+        h = hash(h, 70, 63, 63, 0, 0, 0, 0, 70);
+        due(33, "digest() of a full window", x.digest(), hash(h, -420, 0, 4));
     }
 
     private static void due31ThroughMethods() {
