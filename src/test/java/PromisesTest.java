@@ -1,120 +1,24 @@
 /** For each promise of the document: ordinary calls, the edges that it names, and wrong calls. */
-public final class PromisesTest {
-    private static final int NONE = HeaderSqueezer.NONE;
-    private static final int[] WRONG_INTS = {Integer.MIN_VALUE, -2, -1, Integer.MAX_VALUE};
-    private static int wrong = 0;
-    private static int checks = 0;
-
-    private interface Call {
-        long answer();
-    }
-
+public final class PromisesTest extends Checks {
     private static void due(int promise, String call, long got, long want) {
-        checks++;
-        if (got != want) {
-            wrong++;
-            System.out.println("promise " + promise + ": " + call + " answered " + got
-                    + ", due is " + want);
-        }
+        about("promise " + promise);
+        due(call, got, want);
     }
 
-    private static void dueMean(String call, double got, double want) {
-        checks++;
-        if (got != want) {
-            wrong++;
-            System.out.println("promise 28: " + call + " answered " + got + ", due is " + want);
-        }
-    }
-
-    /** The call throws just this exception and changes nothing, the saved states included. */
     private static void refused(int promise, HeaderSqueezer x, Class<?> want, String name, Call call) {
-        checks++;
-        long before = x.digest();
-        String got = "nothing";
-        try {
-            call.answer();
-        } catch (RuntimeException e) {
-            got = e.getClass().getName();
-        }
-        if (!got.equals(want.getName())) {
-            wrong++;
-            System.out.println("promise " + promise + ": " + name + " threw " + got
-                    + ", due is " + want.getName());
-        }
-        due(promise, "digest() after " + name, x.digest(), before);
+        about("promise " + promise);
+        refused(x, want, name, call);
     }
 
-    /** The call answers so, and undo brings back all that was before it. */
     private static void undoable(
             int promise, HeaderSqueezer x, int savedBefore, String name, long want, Call call) {
-        // The digest ends with the number of saved states: without it, it tells the state alone.
-        long before = x.digest() - savedBefore;
-        due(promise, name, call.answer(), want);
-        int remaining = Math.min(savedBefore, 3);
-        due(promise, "undo() after " + name, x.undo(), remaining);
-        due(promise, "digest() after " + name + " and undo()", x.digest() - remaining, before);
+        about("promise " + promise);
+        undoable(x, savedBefore, name, want, call);
     }
 
-    /** The call answers so and is not undoable: it saves no state. */
     private static void onlyAnswers(int promise, HeaderSqueezer x, String name, long want, Call call) {
-        long before = x.digest();
-        due(promise, name, call.answer(), want);
-        due(promise, "digest() after " + name, x.digest(), before);
-    }
-
-    private static final Class<?> BOUNDS = IndexOutOfBoundsException.class;
-    private static final Class<?> ARGUMENT = IllegalArgumentException.class;
-    private static final Class<?> STATE = IllegalStateException.class;
-
-    private static HeaderSqueezer with(int policy, int confidence) {
-        HeaderSqueezer x = new HeaderSqueezer();
-        x.setPolicy(policy, confidence);
-        return x;
-    }
-
-    private static void write(HeaderSqueezer x, String text) {
-        x.clearText();
-        for (char c : text.toCharArray()) {
-            x.append(c);
-        }
-    }
-
-    private static int run(HeaderSqueezer x, String text) {
-        write(x, text);
-        return x.carryOut();
-    }
-
-    private static void dueHeader(int promise, HeaderSqueezer x, int packet, int... want) {
-        for (int what = 0; what < want.length; what++) {
-            due(promise, "sent(" + packet + ", " + what + ")", x.sent(packet, what), want[what]);
-        }
-    }
-
-    private static void dueRecord(HeaderSqueezer x, int number, int... want) {
-        for (int what = 0; what < want.length; what++) {
-            due(22, "record(" + number + ", " + what + ")", x.record(number, what), want[what]);
-        }
-    }
-
-    private static void dueCounts(HeaderSqueezer x, int... want) {
-        for (int what = 0; what < want.length; what++) {
-            due(25, "count(" + what + ")", x.count(what), want[what]);
-        }
-    }
-
-    private static void dueLink(int promise, HeaderSqueezer x, boolean back, int... want) {
-        due(promise, "waiting(" + back + ")", x.waiting(back), want.length);
-        for (int index = 0; index < Math.min(want.length, x.waiting(back)); index++) {
-            due(promise, "waitingAt(" + back + ", " + index + ")", x.waitingAt(back, index), want[index]);
-        }
-    }
-
-    private static long hash(long start, long... values) {
-        long h = start;
-        for (long value : values) {
-            h = 31 * h + value;
-        }
-        return h;
+        about("promise " + promise);
+        onlyAnswers(x, name, want, call);
     }
 
     private static void promise1() {
@@ -126,8 +30,8 @@ public final class PromisesTest {
         for (int what = 0; what < 8; what++) {
             due(1, "count(" + what + ")", x.count(what), 0);
         }
-        dueLink(1, x, false);
-        dueLink(1, x, true);
+        dueLink(x, false);
+        dueLink(x, true);
         due(1, "highest()", x.highest(), -1);
         due(1, "records()", x.records(), 0);
         due(1, "reference()", x.reference(), NONE);
@@ -227,20 +131,20 @@ public final class PromisesTest {
         x.setField(3, 4);
         undoable(6, x, 3, "send()", 0, x::send);
         due(6, "send()", x.send(), 0);
-        dueHeader(6, x, 0, 9, 0, 0, 4, 12, 0, NONE, 0);
+        dueHeader(x, 0, 9, 0, 0, 4, 12, 0, NONE, 0);
         due(6, "send() without a reference", x.send(), 1);
-        dueHeader(6, x, 1, 9, 0, 0, 4, 12, 0, NONE, 0);
+        dueHeader(x, 1, 9, 0, 0, 4, 12, 0, NONE, 0);
         x.setPolicy(1, 2);
         due(6, "send() of a delta", x.send(), 2);
-        dueHeader(6, x, 2, 9, 0, 0, 4, 3, 1, 0, 0);
+        dueHeader(x, 2, 9, 0, 0, 4, 3, 1, 0, 0);
         x.setPolicy(0, 1);
         x.send();
-        dueHeader(6, x, 3, 9, 0, 0, 4, 12, 0, NONE, 0);
+        dueHeader(x, 3, 9, 0, 0, 4, 12, 0, NONE, 0);
         x.setPolicy(2, 1);
         x.send();
         // The pattern expects one stride more than the header has.
-        dueHeader(6, x, 4, 9, 0, 0, 4, 6, 2, 3, 0);
-        dueLink(6, x, false, 0, 1, 2, 3, 4);
+        dueHeader(x, 4, 9, 0, 0, 4, 6, 2, 3, 0);
+        dueLink(x, false, 0, 1, 2, 3, 4);
         x.stream(15);
         refused(6, x, STATE, "send() into a full link", x::send);
         x.lose(0);
@@ -266,7 +170,7 @@ public final class PromisesTest {
         due(31, "carryOut() of s; with 500 sent", run(x, "s;"), -1000);
         due(10, "reference() with 500 sent", x.reference(), 499);
         due(9, "sizeWith(2, 1) with 500 sent", x.sizeWith(2, 1), 6);
-        dueHeader(11, x, 499, 0, 499, 79840 - 65536, 0);
+        dueHeader(x, 499, 0, 499, 79840 - 65536, 0);
         due(22, "record(498, 1)", x.record(498, 1), 499);
         due(25, "count(2)", x.count(2), 499);
     }
@@ -278,13 +182,13 @@ public final class PromisesTest {
         x.stream(2);
         x.setStrides(7, 300);
         x.stream(2);
-        dueHeader(6, x, 2, 0, 17, 500, 0, 6, 2, 1);
-        dueHeader(6, x, 3, 0, 24, 800, 0, 6, 2, 2);
+        dueHeader(x, 2, 0, 17, 500, 0, 6, 2, 1);
+        dueHeader(x, 3, 0, 24, 800, 0, 6, 2, 2);
         x.setPolicy(0, 1);
         x.stream(1);
         x.setPolicy(2, 1);
         x.stream(1);
-        dueHeader(6, x, 5, 0, 38, 1400, 0, 3, 2, 4);
+        dueHeader(x, 5, 0, 38, 1400, 0, 3, 2, 4);
         due(6, "deliverAll()", x.deliverAll(), 6);
         due(6, "record(3, 4)", x.record(3, 4), 5);
         due(6, "record(3, 5)", x.record(3, 5), 100);
@@ -307,11 +211,11 @@ public final class PromisesTest {
             due(10, "reference() with a repair due", x.reference(), 1);
             x.setPolicy(policy, 1);
             x.send();
-            dueHeader(6, x, 2, 0, 0, 0, 0, 12, 0, NONE);
+            dueHeader(x, 2, 0, 0, 0, 0, 12, 0, NONE);
             due(9, "sizeWith(1, 1) after the repair", x.sizeWith(1, 1), 3);
             x.setPolicy(1, 1);
             x.send();
-            dueHeader(6, x, 3, 0, 0, 0, 0, 3, 1, 2);
+            dueHeader(x, 3, 0, 0, 0, 0, 3, 1, 2);
         }
     }
 
@@ -320,8 +224,8 @@ public final class PromisesTest {
         undoable(7, x, 0, "stream(20)", 20, () -> x.stream(20));
         due(7, "stream(1)", x.stream(1), 1);
         due(7, "stream(18)", x.stream(18), 19);
-        dueHeader(7, x, 0, 0, 1, 160, 0);
-        dueHeader(7, x, 18, 0, 19, 3040, 0);
+        dueHeader(x, 0, 0, 1, 160, 0);
+        dueHeader(x, 18, 0, 19, 3040, 0);
         due(7, "field(1)", x.field(1), 19);
         refused(7, x, STATE, "stream(2)", () -> x.stream(2));
         undoable(7, x, 2, "stream(1)", 20, () -> x.stream(1));
@@ -443,9 +347,9 @@ public final class PromisesTest {
         x.send();
         x.setPolicy(2, 2);
         x.send();
-        dueHeader(11, x, 0, 3, 10, 500, 6, 12, 0, NONE, 0);
-        dueHeader(11, x, 1, 4, 11, 660, 6, 7, 1, 0, 0);
-        dueHeader(11, x, 2, 4, 11, 660, 6, 7, 2, 0, 0);
+        dueHeader(x, 0, 3, 10, 500, 6, 12, 0, NONE, 0);
+        dueHeader(x, 1, 4, 11, 660, 6, 7, 1, 0, 0);
+        dueHeader(x, 2, 4, 11, 660, 6, 7, 2, 0, 0);
         onlyAnswers(11, x, "sent(1, 2)", 660, () -> x.sent(1, 2));
         x.deliver(0);
         due(11, "sent(0, 7) before the acknowledgment comes", x.sent(0, 7), 0);
@@ -476,7 +380,7 @@ public final class PromisesTest {
         undoable(12, x, 3, "deliver(0)", 0, () -> x.deliver(0));
         due(12, "deliver(1)", x.deliver(1), 2);
         due(12, "deliver(0)", x.deliver(0), 0);
-        dueLink(12, x, false, 2, 3, 0);
+        dueLink(x, false, 2, 3, 0);
         undoable(12, x, 4, "deliver(2) of a copy", 3, () -> x.deliver(2));
         due(12, "deliver(2) of a copy", x.deliver(2), 3);
         due(12, "deliver(0), its reference was lost", x.deliver(0), 2);
@@ -518,20 +422,11 @@ public final class PromisesTest {
         due(12, "a decoded one ends the row", x.deliver(1), 0);
         due(12, "an unknown one", x.deliver(2), 2);
         due(12, "count(6)", x.count(6), 1);
-        dueLink(12, x, true, NONE);
+        dueLink(x, true, NONE);
         x.setReceiver(3, 16, 1);
         due(12, "an unknown one, the second, by patience 1", x.deliver(1), 2);
         due(12, "count(6)", x.count(6), 2);
-        dueLink(12, x, true, NONE, NONE);
-    }
-
-    /** Sends full packets until so many are sent, and loses them all. */
-    private static void sendAndLose(HeaderSqueezer x, int keptInLink, int until) {
-        x.setPolicy(0, 0);
-        while (x.count(0) < until) {
-            x.send();
-            x.lose(keptInLink);
-        }
+        dueLink(x, true, NONE, NONE);
     }
 
     private static void deliverCarriedFields() {
@@ -598,7 +493,7 @@ public final class PromisesTest {
         due(24, "numberFor(1)", x.numberFor(1), 65);
         due(12, "deliver(0) of packet 1", x.deliver(0), 1);
         dueRecord(x, 65, 6, 1001, 2160, 8, 3, 50);
-        dueLink(12, x, true, 64, 65);
+        dueLink(x, true, 64, 65);
         due(16, "deliverBack(1) of a number never sent", x.deliverBack(1), 65);
         x.setPolicy(1, 0);
         due(10, "reference() after it", x.reference(), NONE);
@@ -609,7 +504,7 @@ public final class PromisesTest {
         // The number of packet 66 is right, but it builds on the wrong record 65.
         due(12, "deliver(0) of packet 66", x.deliver(0), 1);
         dueRecord(x, 66, 6, 1001, 2160, 8, 3, 50);
-        dueHeader(11, x, 66, 7, 1000, 2000, 8, 3, 1, 65, 0);
+        dueHeader(x, 66, 7, 1000, 2000, 8, 3, 1, 65, 0);
         dueCounts(x, 67, 3, 1, 2, 0, 1, 0, 64);
         due(27, "lateness()", x.lateness(), 63);
     }
@@ -632,7 +527,7 @@ public final class PromisesTest {
         due(12, "deliver(0) of packet 1", x.deliver(0), 0);
         due(23, "records()", x.records(), 2);
         due(22, "record(1, 0)", x.record(1, 0), 0);
-        dueLink(12, x, true, 64, 0, 0, 1);
+        dueLink(x, true, 64, 0, 0, 1);
         dueCounts(x, 65, 4, 4, 0, 0, 0, 0, 65);
         x.send();
         x.deliver(0);
@@ -651,9 +546,9 @@ public final class PromisesTest {
         due(12, "a repetition", x.deliver(6), 3);
         due(12, "waiting(true) after a repetition", x.waiting(true), 0);
         x.deliver(1);
-        dueLink(12, x, true, 2);
+        dueLink(x, true, 2);
         x.deliverAll();
-        dueLink(12, x, true, 2, 4);
+        dueLink(x, true, 2, 4);
         due(12, "count(1)", x.count(1), 8);
         x.setReceiver(3, 1, 2);
         x.stream(20);
@@ -695,9 +590,9 @@ public final class PromisesTest {
         x.lose(1);
         undoable(13, x, 4, "deliverAll()", 1, x::deliverAll);
         due(13, "deliverAll()", x.deliverAll(), 1);
-        dueLink(13, x, false);
+        dueLink(x, false);
         dueCounts(x, 4, 1, 1, 0, 2, 1, 1, 1);
-        dueLink(13, x, true, 0, NONE);
+        dueLink(x, true, 0, NONE);
         deliverAllWrongOnes();
     }
 
@@ -720,7 +615,7 @@ public final class PromisesTest {
         x.stream(3);
         undoable(14, x, 1, "lose(1)", 1, () -> x.lose(1));
         due(14, "lose(1)", x.lose(1), 1);
-        dueLink(14, x, false, 0, 2);
+        dueLink(x, false, 0, 2);
         refused(14, x, BOUNDS, "lose(2)", () -> x.lose(2));
         due(14, "lose(1)", x.lose(1), 2);
         due(14, "lose(0)", x.lose(0), 0);
@@ -737,7 +632,7 @@ public final class PromisesTest {
         undoable(15, x, 1, "copy(1)", 4, () -> x.copy(1));
         due(15, "copy(1)", x.copy(1), 4);
         due(15, "copy(3)", x.copy(3), 5);
-        dueLink(15, x, false, 0, 1, 2, 1, 1);
+        dueLink(x, false, 0, 1, 2, 1, 1);
         due(15, "count(0)", x.count(0), 3);
         refused(15, x, BOUNDS, "copy(5)", () -> x.copy(5));
         x.stream(14);
@@ -768,14 +663,14 @@ public final class PromisesTest {
 
     private static void promise16() {
         HeaderSqueezer x = withMessages();
-        dueLink(16, x, true, 0, NONE, 3);
+        dueLink(x, true, 0, NONE, 3);
         undoable(16, x, 4, "deliverBack(0)", 0, () -> x.deliverBack(0));
         undoable(16, x, 3, "deliverBack(1)", NONE, () -> x.deliverBack(1));
         undoable(16, x, 3, "deliverBack(2)", 3, () -> x.deliverBack(2));
         due(16, "deliverBack(2)", x.deliverBack(2), 3);
         due(16, "sent(3, 7)", x.sent(3, 7), 1);
         due(16, "sent(0, 7)", x.sent(0, 7), 0);
-        dueLink(16, x, true, 0, NONE);
+        dueLink(x, true, 0, NONE);
         due(16, "sizeWith(1, 1)", x.sizeWith(1, 1), 3);
         due(16, "deliverBack(1)", x.deliverBack(1), NONE);
         due(16, "sizeWith(1, 1) with a repair due", x.sizeWith(1, 1), 12);
@@ -792,7 +687,7 @@ public final class PromisesTest {
         HeaderSqueezer x = withMessages();
         undoable(17, x, 4, "loseBack(0)", 0, () -> x.loseBack(0));
         due(17, "loseBack(1)", x.loseBack(1), NONE);
-        dueLink(17, x, true, 0, 3);
+        dueLink(x, true, 0, 3);
         due(17, "loseBack(1)", x.loseBack(1), 3);
         refused(17, x, BOUNDS, "loseBack(1)", () -> x.loseBack(1));
         due(17, "loseBack(0)", x.loseBack(0), 0);
@@ -1046,8 +941,8 @@ public final class PromisesTest {
         write(x, "n;s;d0;l0;c00;a0;s;d1;x0;");
         undoable(31, x, 1, "carryOut()", 9, x::carryOut);
         due(31, "carryOut()", x.carryOut(), 9);
-        dueLink(31, x, false, 2, 2, 4);
-        dueLink(31, x, true);
+        dueLink(x, false, 2, 2, 4);
+        dueLink(x, true);
         due(31, "sent(0, 7)", x.sent(0, 7), 1);
         due(31, "sent(3, 7), its acknowledgment was lost", x.sent(3, 7), 0);
         due(31, "field(1)", x.field(1), 4);
@@ -1170,11 +1065,11 @@ public final class PromisesTest {
         x.undo();
         x.undo();
         x.undo();
-        dueLink(32, x, false, 0);
+        dueLink(x, false, 0);
         x.setField(0, 2);
         x.send();
-        dueHeader(32, x, 1, 2, 0, 0, 0, 4, 1, 0, 0);
-        dueHeader(32, x, 0, 1, 0, 0, 0, 12, 0, NONE, 0);
+        dueHeader(x, 1, 2, 0, 0, 0, 4, 1, 0, 0);
+        dueHeader(x, 0, 1, 0, 0, 0, 12, 0, NONE, 0);
         due(32, "deliverAll()", x.deliverAll(), 2);
         due(32, "count(2)", x.count(2), 2);
         due(32, "record(1, 0)", x.record(1, 0), 2);
@@ -1227,7 +1122,7 @@ public final class PromisesTest {
         due(32, "setReceiver(3, 2, 2) after undo()", x.setReceiver(3, 2, 2), 3);
         x.undo();
         x.deliverAll();
-        dueLink(32, x, true, 0, 1, 2);
+        dueLink(x, true, 0, 1, 2);
         x.setPolicy(1, 1);
         x.stream(2);
         x.lose(0);
@@ -1250,37 +1145,6 @@ public final class PromisesTest {
         due(32, "records()", x.records(), 64);
         due(32, "highest()", x.highest(), 63);
         due(32, "record(64, 1)", x.record(64, 1), NONE);
-    }
-
-    /** The digest, put together again from the other answers and what is known besides them. */
-    private static long digestBy(
-            HeaderSqueezer x, int[] textStridesPolicyConfidenceRepair, int[] receiver, int unknown,
-            int states) {
-        int[] known = textStridesPolicyConfidenceRepair;
-        long h = hash(3061, known[0]);
-        h = hash(h, x.field(0), x.field(1), x.field(2), x.field(3));
-        h = hash(h, known[1], known[2], known[3], known[4], known[5]);
-        for (int packet = 0; packet < x.count(0); packet++) {
-            for (int what = 0; what < 8; what++) {
-                h = hash(h, x.sent(packet, what));
-            }
-        }
-        for (int link = 0; link < 2; link++) {
-            h = hash(h, x.waiting(link == 1));
-            for (int index = 0; index < x.waiting(link == 1); index++) {
-                h = hash(h, x.waitingAt(link == 1, index));
-            }
-        }
-        h = hash(h, receiver[0], receiver[1], receiver[2], x.highest(), unknown, x.records());
-        for (int number = Math.max(0, x.highest() - 63); number <= x.highest(); number++) {
-            for (int what = 0; what < 6; what++) {
-                h = hash(h, x.record(number, what));
-            }
-        }
-        for (int what = 0; what < 8; what++) {
-            h = hash(h, x.count(what));
-        }
-        return hash(h, x.saved(), x.lateness(), states);
     }
 
     private static void promise33() {
@@ -1397,9 +1261,6 @@ public final class PromisesTest {
         due31ThroughMethods();
         promise32();
         promise33();
-        System.out.println(checks + " checks, " + wrong + " wrong");
-        if (wrong != 0) {
-            System.exit(1);
-        }
+        finish();
     }
 }
