@@ -37,15 +37,21 @@ public final class ReceivingSentences extends Sentences {
     }
 
     private static void messagesAtTheEnd() {
-        HeaderSqueezer x = withRepairRequested();
-        x.setPolicy(0, 0);
+        HeaderSqueezer x = with(1, 1);
+        x.setReceiver(3, 1, 1);
         x.stream(3);
+        x.deliver(0);
+        due("deliver(1), an unknown one", x.deliver(1), 2);
+        dueLink(x, true, 0, NONE);
+        x.setPolicy(0, 0);
+        x.stream(2);
         x.deliver(2);
-        x.deliver(0);
-        dueLink(x, true, NONE, 4, 2);
-        x.loseBack(0);
-        x.deliver(0);
-        dueLink(x, true, 4, 2, 3);
+        x.deliver(1);
+        dueLink(x, true, 0, NONE, 4, 3);
+        x.loseBack(1);
+        x.send();
+        x.deliver(1);
+        dueLink(x, true, 0, 4, 3, 5);
     }
 
     private static HeaderSqueezer withFullReturnLink() {
@@ -411,6 +417,10 @@ public final class ReceivingSentences extends Sentences {
         due("deliver(0) with a distance to a known one", x.deliver(0), 0);
         due("records()", x.records(), 2);
         due("unknown ones", x.count(4), 4);
+        HeaderSqueezer y = with(1, 1);
+        y.stream(3);
+        y.deliver(0);
+        due("deliver(1) with a record one below the reference", y.deliver(1), 2);
     }
 
     /** Packets taken for numbers below 0, and such as refer to numbers below 0. */
@@ -562,6 +572,25 @@ public final class ReceivingSentences extends Sentences {
         due("highest()", x.highest(), 64);
         dueLink(x, true, 64, 0, 0, 1);
         dueCounts(x, 65, 4, 4, 0, 0, 0, 0, 65);
+    }
+
+    /** The records between 0 and H - 64 are as low as 0 is. */
+    private static void newOneTooLowAboveZero() {
+        HeaderSqueezer x = new HeaderSqueezer();
+        sendAndLose(x, 0, 36);
+        x.stream(3);
+        sendAndLose(x, 3, 100);
+        x.send();
+        x.deliver(3);
+        due("highest()", x.highest(), 100);
+        for (int packet = 36; packet < 39; packet++) {
+            due("deliver(0) of packet " + packet, x.deliver(0), 0);
+        }
+        due("record(36, 1) at H = 100", x.record(36, 1), NONE);
+        due("record(37, 1) at H = 100", x.record(37, 1), 2);
+        due("record(38, 1) at H = 100", x.record(38, 1), 3);
+        due("records()", x.records(), 3);
+        dueLink(x, true, 100, 36, 37, 38);
     }
 
     // ---- messages of the receiver
@@ -826,7 +855,10 @@ public final class ReceivingSentences extends Sentences {
         sentence("H becomes x if x is greater", ReceivingSentences::highestGrowsAlone);
         sentence("records with numbers up to H - 64 are dropped then",
                 ReceivingSentences::recordsAreDropped);
-        sentence("the new one too, if x is so low", ReceivingSentences::newOneTooLow);
+        sentence("the new one too, if x is so low", () -> {
+            newOneTooLow();
+            newOneTooLowAboveZero();
+        });
         sentence("A decoded packet is right if x is its number and the header is that with which it was "
                 + "sent; otherwise it is wrong.", () -> {
             wrongByNumberAlone();

@@ -312,6 +312,61 @@ public final class ScriptSentences extends Sentences {
         refused(x, STATE, "undo() of the fifth", x::undo);
     }
 
+    private static void undoOfTheSender() {
+        HeaderSqueezer x = new HeaderSqueezer();
+        setHeader(x, 1, 2, 3, 4);
+        x.advance();
+        x.undo();
+        int[] header = {1, 2, 3, 4};
+        for (int field = 0; field < 4; field++) {
+            due("field(" + field + ")", x.field(field), header[field]);
+        }
+        x.setStrides(9, 8);
+        x.undo();
+        due("advance() by the sequence stride before", x.advance(), 3);
+        due("field(2) by the time stride before", x.field(2), 163);
+        x.setPolicy(2, 1);
+        x.undo();
+        x.send();
+        due("reference() by the confidence before", x.reference(), NONE);
+        x.setPolicy(1, 1);
+        x.setPolicy(2, 2);
+        x.undo();
+        x.send();
+        due("form by the policy before", x.sent(1, 5), 1);
+    }
+
+    private static void undoOfIntervalAndPatience() {
+        HeaderSqueezer x = new HeaderSqueezer();
+        x.setReceiver(3, 2, 3);
+        x.setReceiver(3, 1, 1);
+        x.undo();
+        x.stream(2);
+        x.deliver(0);
+        due("waiting(true) by the interval before", x.waiting(true), 0);
+        x.deliver(0);
+        due("waiting(true) by the interval before", x.waiting(true), 1);
+        x.setPolicy(1, 1);
+        x.stream(4);
+        x.lose(0);
+        x.deliver(0);
+        x.deliver(0);
+        due("requests by the patience before", x.count(6), 0);
+        x.deliver(0);
+        due("requests by the patience before", x.count(6), 1);
+    }
+
+    /** The packet that is sent anew has the number of one that was acknowledged. */
+    private static void undoOfAScriptThatAcknowledged() {
+        HeaderSqueezer x = with(1, 0);
+        due("carryOut()", run(x, "s;d0;a0;"), 3);
+        due("sent(0, 7)", x.sent(0, 7), 1);
+        x.undo();
+        x.send();
+        due("sent(0, 7) of the packet sent anew", x.sent(0, 7), 0);
+        due("reference()", x.reference(), NONE);
+    }
+
     private static void undoOfRepair() {
         HeaderSqueezer x = withRepairRequested();
         x.deliverBack(0);
@@ -540,6 +595,9 @@ public final class ScriptSentences extends Sentences {
             backAndOn();
         });
         sentence("The saved state contains everything", () -> {
+            undoOfTheSender();
+            undoOfIntervalAndPatience();
+            undoOfAScriptThatAcknowledged();
             undoOfRepair();
             undoOfRowAndReceiver();
             undoOfRecordsAndHighest();
