@@ -47,10 +47,18 @@ public final class FaceTest {
         "int undo() IllegalStateException",
         "long digest()",
     };
-    // What the rules leave out and a reader may overlook.
-    private static final String[] BARRED = {"package ", "->", "::", "catch", "finally", "synchronized",
-        "assert", "System.out", "System.nano", "System.current", "Exact(", ".equals(", "hashCode",
-        "toString", "instanceof", "+ \"", "\" +", "float", "protected "};
+    // What the rules bar and a reader may overlook.
+    private static final String[] BARRED = {"->", "::", "finally", "synchronized", "assert ", "volatile",
+        "static {", "System.out", "System.err", "System.nano", "System.current", "Exact(", "hashCode",
+        "identityHashCode", "getClass", "getMessage", "\" +", "+ \"", "Random", "Thread",
+        "public static class", "protected ", "try (", "Double.", "Float."};
+    // What a catch must not take: what the machine throws by its own names, and all exceptions.
+    private static final String[] NEVER_CAUGHT = {"Throwable", "Exception", "NullPointerException",
+        "ArrayIndexOutOfBoundsException", "StringIndexOutOfBoundsException", "ClassCastException",
+        "NegativeArraySizeException", "ArrayStoreException", "StackOverflowError", "OutOfMemoryError"};
+    private static final String[] IMPORTS = {"java.util.ArrayList", "java.util.Arrays",
+        "java.util.Iterator", "java.util.List", "java.util.NoSuchElementException"};
+    private static final int PARAMETERS_MOST = 7;
 
     private static int wrong = 0;
 
@@ -74,6 +82,15 @@ public final class FaceTest {
             text.append(' ').append(type.getSimpleName());
         }
         return text.toString();
+    }
+
+    private static boolean isOfTheFace(String name) {
+        for (String told : FACE) {
+            if (told.contains(" " + name + "(")) {
+                return true;
+            }
+        }
+        return false;
     }
 
     private static void checkHidden(Member member) {
@@ -124,23 +141,55 @@ public final class FaceTest {
                 fields += Modifier.isStatic(field.getModifiers()) ? 0 : 1;
             }
             check(fields <= 20, part + " has too many fields");
+            checkParameters(part);
+            for (Method method : part.getDeclaredMethods()) {
+                check(!Modifier.isPrivate(method.getModifiers()) || !isOfTheFace(method.getName()),
+                        method + " bears a public name");
+            }
+        }
+    }
+
+    private static void checkParameters(Class<?> type) {
+        for (Method method : type.getDeclaredMethods()) {
+            check(method.getParameterCount() <= PARAMETERS_MOST, method + " has too many parameters");
+        }
+    }
+
+    private static String withoutComments(String source) {
+        return source.replaceAll("(?s)/\\*.*?\\*/", "").replaceAll("//[^\n]*", "");
+    }
+
+    private static void checkWords(String code) {
+        for (String barred : BARRED) {
+            check(!code.contains(barred), "the source has '" + barred + "'");
+        }
+        for (String caught : NEVER_CAUGHT) {
+            check(!code.contains("catch (" + caught + " ") && !code.contains("| " + caught + " "),
+                    "the source catches " + caught);
+        }
+    }
+
+    private static void checkImports(String code) {
+        for (String line : code.split("\n")) {
+            check(!line.startsWith("package "), "the source has a package line");
+            if (line.startsWith("import ")) {
+                String name = line.substring(7).replace(";", "").trim();
+                check(Arrays.asList(IMPORTS).contains(name), "the source imports " + name);
+            }
         }
     }
 
     private static void checkSource() throws IOException {
         String source = Files.readString(Path.of(SOURCE));
-        for (String barred : BARRED) {
-            check(!source.contains(barred), "the source has '" + barred + "'");
-        }
-        for (String line : source.split("\n")) {
-            check(!line.startsWith("import ") || line.equals("import java.util.Arrays;"), line);
-            check(line.length() <= 100, "a long line: " + line);
-        }
         check(source.chars().allMatch(c -> c == '\n' || c >= ' ' && c < 127), "a sign beyond ASCII");
+        String code = withoutComments(source);
+        checkWords(code);
+        checkImports(code);
     }
 
     public static void main(String[] args) throws IOException {
         checkFace();
+        checkParameters(HeaderSqueezer.class);
         checkParts();
         checkSource();
         System.out.println(wrong == 0 ? "the face is as due" : wrong + " faults of the face");

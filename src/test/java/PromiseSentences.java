@@ -1009,19 +1009,34 @@ public final class PromiseSentences extends Sentences {
     private static final int[] FIRST_SENDER = {0, 1, 160, 0, 0, 0};
     private static final int[] FIRST_RECEIVER = {3, 1, 2};
 
-    private static void digestOfH() {
+    /** The digest after so many full packets were streamed and delivered in order. */
+    private static long digestOfStream(int packets) {
+        long h = hash(3061, 0, 0, packets, 160 * packets % 65536, 0, 1, 160, 0, 0, 0);
+        for (int number = 1; number <= packets; number++) {
+            h = hash(h, 0, number, 160 * number % 65536, 0, 12, 0, NONE, 0);
+        }
+        h = hash(h, 0, Math.min(packets, 20));
+        for (int message = 0; message < Math.min(packets, 20); message++) {
+            h = hash(h, message);
+        }
+        h = hash(h, 3, 1, 2, packets - 1, 0, Math.min(packets, 64));
+        for (int number = Math.max(1, packets - 63); number <= packets; number++) {
+            h = hash(h, 0, number, 160 * number % 65536, 0, 1, 160);
+        }
+        h = hash(h, packets, packets, packets, 0, 0, 0, 0, packets);
+        return hash(h, -6 * packets, 0, Math.min(4, 2 * ((packets + 19) / 20)));
+    }
+
+    private static void dueDigestOfStream(int packets) {
         HeaderSqueezer x = new HeaderSqueezer();
-        due("digest() at H = -1", x.digest(), digestBy(x, FIRST_SENDER, FIRST_RECEIVER, 0, 0));
-        streamAndDeliver(x, 1);
-        due("digest() at H = 0", x.digest(), digestBy(x, FIRST_SENDER, FIRST_RECEIVER, 0, 2));
-        HeaderSqueezer y = new HeaderSqueezer();
-        streamAndDeliver(y, 63);
-        due("digest() at H = 62", y.digest(), digestBy(y, FIRST_SENDER, FIRST_RECEIVER, 0, 4));
-        streamAndDeliver(y, 1);
-        due("digest() at H = 63", y.digest(), digestBy(y, FIRST_SENDER, FIRST_RECEIVER, 0, 4));
-        HeaderSqueezer z = new HeaderSqueezer();
-        streamAndDeliver(z, 65);
-        due("digest() at H = 64", z.digest(), digestBy(z, FIRST_SENDER, FIRST_RECEIVER, 0, 4));
+        streamAndDeliver(x, packets);
+        due("digest() at H = " + (packets - 1), x.digest(), digestOfStream(packets));
+    }
+
+    private static void digestOfH() {
+        for (int packets : new int[] {0, 1, 2, 63, 64, 65, 66, 128, 129}) {
+            dueDigestOfStream(packets);
+        }
     }
 
     private static void digestOfSettings() {
@@ -1057,18 +1072,17 @@ public final class PromiseSentences extends Sentences {
     }
 
     private static void digestOfRow() {
-        HeaderSqueezer x = with(1, 1);
-        int[] sender = {0, 1, 160, 1, 1, 0};
-        x.setReceiver(3, 1, 8);
-        x.stream(9);
-        x.lose(0);
-        for (int row = 1; row < 8; row++) {
-            x.deliver(0);
-            due("digest() with " + row + " unknown in a row", x.digest(),
-                    digestBy(x, sender, new int[] {3, 1, 8}, row, 4));
+        for (int unknown = 0; unknown <= 9; unknown++) {
+            HeaderSqueezer x = with(1, 1);
+            x.setReceiver(3, 1, 8);
+            x.stream(10);
+            x.lose(0);
+            for (int i = 0; i < unknown; i++) {
+                x.deliver(0);
+            }
+            due("digest() after " + unknown + " unknown ones by the patience 8", x.digest(),
+                    digestBy(x, new int[] {0, 1, 160, 1, 1, 0}, new int[] {3, 1, 8}, unknown % 8, 4));
         }
-        x.deliver(0);
-        due("digest() with a request", x.digest(), digestBy(x, sender, new int[] {3, 1, 8}, 0, 4));
     }
 
     private static void digestOfSavedStates() {
@@ -1085,11 +1099,10 @@ public final class PromiseSentences extends Sentences {
         }
     }
 
-    private static void digestOfTheLongestRun() {
-        HeaderSqueezer x = with(2, 3);
-        streamAndDeliver(x, 500);
-        due("digest() with 500 sent", x.digest(),
-                digestBy(x, new int[] {0, 1, 160, 2, 3, 0}, FIRST_RECEIVER, 0, 4));
+    private static void digestOfLongRuns() {
+        dueDigestOfStream(20);
+        dueDigestOfStream(410);
+        dueDigestOfStream(500);
     }
 
     // ---- what is tested, promise by promise
@@ -1284,7 +1297,7 @@ public final class PromiseSentences extends Sentences {
         promise(33, "the number of packets in a row that were unknown", PromiseSentences::digestOfRow);
         promise(33, "the number of saved states.", PromiseSentences::digestOfSavedStates);
         promise(33, "with the overflow of long arithmetic ignored.",
-                PromiseSentences::digestOfTheLongestRun);
+                PromiseSentences::digestOfLongRuns);
     }
 
     public static void main(String[] args) throws IOException {

@@ -394,12 +394,8 @@ public final class PromisesTest extends Checks {
         deliverRowsOfUnknown();
         deliverCarriedFields();
         deliverWrongOnes();
-        for (int field = -1; field < 4; field++) {
-            deliverWrongField(field);
-        }
         deliverOldOnes();
         deliverInterval();
-        deliverBelowZero();
     }
 
     /** Only a decoded packet ends a row of unknown ones; a repetition does not. */
@@ -448,29 +444,6 @@ public final class PromisesTest extends Checks {
         dueRecord(x, 1, 100, 0, 0, 3, 1, 160);
         dueRecord(x, 2, 100, 0, 0, 9, 1, 160);
         dueRecord(x, 3, 0, 40000, 20000, 0, 1, 160);
-    }
-
-    /** Record 65 is one of packet 1: packet 66 is wrong if a field has changed since, not by strides. */
-    private static void deliverWrongField(int field) {
-        HeaderSqueezer x = with(1, 1);
-        x.send();
-        x.send();
-        x.lose(0);
-        sendAndLose(x, 1, 64);
-        x.send();
-        x.deliver(1);
-        due(12, "deliver(0) of packet 1", x.deliver(0), 1);
-        if (field >= 0) {
-            x.setField(field, 1);
-        }
-        x.setStrides(9, 9);
-        x.send();
-        due(12, "deliver(0) of packet 65", x.deliver(0), 3);
-        x.setPolicy(1, 1);
-        x.send();
-        due(12, "deliver(0) of packet 66 with a changed field " + field, x.deliver(0), field < 0 ? 0 : 1);
-        due(12, "sent(66, 4)", x.sent(66, 4), 3);
-        dueRecord(x, 66, 0, 0, 0, 0, 1, 160);
     }
 
     private static void deliverWrongOnes() {
@@ -565,23 +538,6 @@ public final class PromisesTest extends Checks {
         due(12, "waitingAt(true, 19)", x.waitingAt(true, 19), 25);
     }
 
-    /** Before anything is decoded, the last of 64 told numbers stand for numbers below 0. */
-    private static void deliverBelowZero() {
-        HeaderSqueezer x = with(0, 0);
-        sendAndLose(x, 0, 61);
-        x.setPolicy(2, 15);
-        for (int number = 61; number < 64; number++) {
-            x.send();
-            due(24, "numberFor(" + number + ")", x.numberFor(number), number - 64);
-            due(12, "deliver(0) of " + number, x.deliver(0), 2);
-        }
-        x.setReceiver(15, 1, 1);
-        x.send();
-        due(12, "deliver(0) of 64", x.deliver(0), 2);
-        due(21, "highest()", x.highest(), -1);
-        due(27, "lateness()", x.lateness(), 0);
-    }
-
     private static void promise13() {
         HeaderSqueezer x = with(1, 1);
         undoable(13, x, 1, "deliverAll() of an empty link", 0, x::deliverAll);
@@ -597,16 +553,13 @@ public final class PromisesTest extends Checks {
     }
 
     private static void deliverAllWrongOnes() {
-        HeaderSqueezer x = with(1, 1);
+        HeaderSqueezer x = withPacketHeldBack(1);
+        x.setField(0, 5);
         x.send();
         x.send();
-        x.lose(0);
-        sendAndLose(x, 1, 64);
-        x.send();
-        x.copy(0);
-        x.lose(0);
+        x.lose(1);
         due(13, "deliverAll(), a right one and a wrong one", x.deliverAll(), 2);
-        dueCounts(x, 65, 2, 1, 1);
+        dueCounts(x, 67, 3, 2, 1);
     }
 
     private static void promise14() {

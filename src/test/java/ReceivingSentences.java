@@ -736,6 +736,30 @@ public final class ReceivingSentences extends Sentences {
         due("sent(64, 7)", y.sent(64, 7), 1);
     }
 
+    /** Packet 436 is taken for 500, one more than the last packet that can ever be sent. */
+    private static void acknowledgmentOfOneNeverToBeSent() {
+        HeaderSqueezer x = new HeaderSqueezer();
+        streamAndDeliver(x, 436);
+        x.setPolicy(1, 1);
+        x.send();
+        x.setPolicy(0, 0);
+        write(x, "d1;".repeat(19));
+        for (int sent = 437; sent < 494; sent += 19) {
+            x.stream(19);
+            due("carryOut()", x.carryOut(), 19);
+        }
+        x.stream(6);
+        for (int packet = 494; packet < 500; packet++) {
+            due("deliver(1) of packet " + packet, x.deliver(1), 0);
+        }
+        x.loseBack(19);
+        due("deliver(0) of packet 436", x.deliver(0), 1);
+        due("highest()", x.highest(), 500);
+        due("deliverBack(19)", x.deliverBack(19), 500);
+        due("sent(499, 7)", x.sent(499, 7), 0);
+        due("reference()", x.reference(), NONE);
+    }
+
     private static void requestMakesARepairDue() {
         HeaderSqueezer x = withRepairRequested();
         due("sizeWith(1, 1) before it comes", x.sizeWith(1, 1), 3);
@@ -882,8 +906,10 @@ public final class ReceivingSentences extends Sentences {
         sentence("If it is unknown, this number increases by 1; if it is at least the patience then, it "
                 + "becomes 0, and a request for repair is put into the return link.",
                 ReceivingSentences::requestAtThePatience);
-        sentence("the packet x, if it has been sent, has been acknowledged",
-                ReceivingSentences::acknowledgmentOfOneNotSent);
+        sentence("the packet x, if it has been sent, has been acknowledged", () -> {
+            acknowledgmentOfOneNotSent();
+            acknowledgmentOfOneNeverToBeSent();
+        });
         sentence("when it gets a request for repair, a repair is due.",
                 ReceivingSentences::requestMakesARepairDue);
     }
